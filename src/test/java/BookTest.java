@@ -185,7 +185,8 @@ public final class BookTest {
         ClassAnswers x = withMarks(5, 4, 3, 2, 1, 0);
         teams(x, 0b000011, 0b000001, 1);
         teams(x, 0b001111, 0b001001, 0);
-        teams(x, 0b111111, 0b010011 ^ 0b010011 ^ evenest(x, 0b111111), 1);
+        // 5 + 2 + 1, 5 + 3 + 0, 5 + 2 + 0: all one off, the first is least as bits.
+        teams(x, 0b111111, 0b011001, 1);
         teams(x, 0b111010, 0b100010, 1);
         teams(x, 0b110000, 0b010000, 1);
         ClassAnswers y = withMarks(1, 1, 1, 7);

@@ -114,29 +114,54 @@ public final class LettersTest {
 
     private static void promise6SendOrders() {
         for (int k = 2; k <= 5; k++) {
-            ClassAnswers x = Check.withBoxes(1);
-            x.ask(2, k, 1);
-            int taken = 0;
-            int lowest = Integer.MAX_VALUE;
-            // Only the figures up to k are new with each k, so one octal place more is enough.
-            for (int answer = -9; answer < 1 << (3 * k + 1); answer++) {
-                if (k == 5 && answer % 7 == 6 && answer > 0) {
-                    answer++;
-                }
-                if (isRow(answer, k)) {
-                    taken++;
-                    lowest = Math.min(lowest, answer);
-                    Check.due("send(0, " + answer + ") of " + k, x.send(0, answer), taken);
-                } else if (answer < 600) {
-                    Check.due("send(0, " + answer + ") of " + k, x.send(0, answer), BAD);
-                }
-            }
-            Check.holds("orders were taken", taken > 1);
-            Check.due("send(0, MIN)", x.send(0, Integer.MIN_VALUE), BAD);
-            Check.due("send(0, MAX)", x.send(0, Integer.MAX_VALUE), BAD);
-            Check.due("a figure behind the last", x.send(0, lowest | 1 << (3 * k)), BAD);
-            Check.due("a high bit", x.send(0, lowest | 1 << 30), BAD);
+            allRows(k);
+            lowAnswers(k);
+            strayBits(k);
         }
+    }
+
+    private static ClassAnswers askedForOrder(int k) {
+        ClassAnswers x = Check.withBoxes(1);
+        Check.due("ask(2, " + k + ", 1)", x.ask(2, k, 1), 0);
+        return x;
+    }
+
+    private static void allRows(int k) {
+        ClassAnswers x = askedForOrder(k);
+        int taken = 0;
+        for (int answer = 0; answer < 1 << (3 * k); answer++) {
+            if (isRow(answer, k)) {
+                taken++;
+                Check.due("send(0, " + answer + ") of " + k, x.send(0, answer), taken);
+            }
+        }
+        Check.due("orders of " + k, taken, new int[] {2, 6, 24, 120}[k - 2]);
+    }
+
+    private static void lowAnswers(int k) {
+        ClassAnswers x = askedForOrder(k);
+        int taken = 0;
+        for (int answer = -100; answer < 400; answer++) {
+            boolean row = isRow(answer, k);
+            taken += row ? 1 : 0;
+            Check.due("send(0, " + answer + ") of " + k, x.send(0, answer), row ? taken : BAD);
+        }
+    }
+
+    private static void strayBits(int k) {
+        ClassAnswers x = askedForOrder(k);
+        int row = 0;
+        for (int i = 0; i < k; i++) {
+            row |= i << (3 * i);
+        }
+        Check.due("send(0, MIN)", x.send(0, Integer.MIN_VALUE), BAD);
+        Check.due("send(0, MAX)", x.send(0, Integer.MAX_VALUE), BAD);
+        for (int bit = 3 * k; bit < 32; bit++) {
+            Check.due("send() with bit " + bit, x.send(0, row | 1 << bit), BAD);
+        }
+        Check.due("a thing too high", x.send(0, row + (1 << (3 * (k - 1)))), BAD);
+        Check.due("a thing twice", x.send(0, row - (1 << (3 * (k - 1)))), BAD);
+        Check.due("send(0, row)", x.send(0, row), 1);
     }
 
     private static boolean isRow(int answer, int k) {
