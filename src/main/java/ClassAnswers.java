@@ -110,7 +110,7 @@ public final class ClassAnswers {
         }
         int end = tick + n;
         // Nothing can begin by itself once all is quiet, so the rest needs no steps.
-        while (tick < end && !isQuiet()) {
+        for (int i = 0; i < n && !isQuiet(); i++) {
             passTick();
         }
         tick = end;

@@ -265,5 +265,10 @@ public final class BookTest {
         Check.askAndClose(x, 1, 1, 0, -1, -1, -1, -1);
         Check.askAndClose(x, 1, 1, 1, -1, -1, -1, -1);
         Check.due("best(): 2 right, none not right", x.best(), 0);
+        Check.askAndClose(x, 1, 1, 1, 0, 0, -1, -1);
+        Check.askAndClose(x, 1, 1, -1, -1, -1, -1, -1);
+        Check.askAndClose(x, 1, 0, -1, -1, -1, -1, -1);
+        Check.askAndClose(x, 1, -1, -1, -1, -1, -1, -1);
+        Check.due("best(): 2 and 2", x.best(), 2);
     }
 }

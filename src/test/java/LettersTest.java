@@ -16,6 +16,8 @@ public final class LettersTest {
         promise7TicksEdges();
         promise7FiveTriesByEachRoad();
         promise7OneAcknowledgementEndsTheTries();
+        promise7EitherBaseAcknowledges();
+        promise7LettersKeepTheirBase();
         promise7OnlyTheLatestIsTried();
         promise7OlderLettersDoNotAcknowledge();
         promise7NoTriesBehindClose();
@@ -245,6 +247,48 @@ public final class LettersTest {
         Check.due("count(4)", x.count(4), 0);
         Check.due("count(5)", x.count(5), 8);
         Check.due("base 1 has nothing", x.base(1, 1, 3), NONE);
+    }
+
+    private static void promise7EitherBaseAcknowledges() {
+        for (int base = 0; base < 2; base++) {
+            ClassAnswers x = Check.withBoxes(1);
+            x.road(0, 1 - base, 65535, 0);
+            x.ask(0, 0, 100);
+            x.send(0, 2);
+            x.ticks(1);
+            Check.due("about(0, 2)", x.about(0, 2), 1);
+            x.ticks(5);
+            Check.due("about(0, 1)", x.about(0, 1), 2);
+            Check.due("the base that got it", x.base(base, 0, 3), 1);
+            Check.due("the other base", x.base(1 - base, 0, 3), NONE);
+        }
+    }
+
+    /** Of letters of both bases and several boxes some come while others stay under way. */
+    private static void promise7LettersKeepTheirBase() {
+        ClassAnswers x = Check.withBoxes(3);
+        x.road(0, 0, 0, 0);
+        x.road(0, 1, 0, 5);
+        x.road(1, 0, 65534, 4);
+        x.road(1, 1, 65535, 0);
+        x.road(2, 0, 65535, 0);
+        x.road(2, 1, 65534, 3);
+        x.ask(0, 0, 100);
+        for (int box = 0; box < 3; box++) {
+            x.send(box, box + 5);
+        }
+        x.ticks(1);
+        int[] left = {3, 3, 3, 2, 1, 0};
+        for (int tick = 0; tick < 6; tick++) {
+            Check.due("count(4) behind tick " + tick, x.count(4), left[tick]);
+            Check.due("base(0, 0, 0)", x.base(0, 0, 0), 5);
+            Check.due("base(1, 0, 0)", x.base(1, 0, 0), tick >= 5 ? 5 : NONE);
+            Check.due("base(0, 1, 0)", x.base(0, 1, 0), tick >= 4 ? 6 : NONE);
+            Check.due("base(1, 1, 0)", x.base(1, 1, 0), NONE);
+            Check.due("base(0, 2, 0)", x.base(0, 2, 0), NONE);
+            Check.due("base(1, 2, 0)", x.base(1, 2, 0), tick >= 3 ? 7 : NONE);
+            x.ticks(1);
+        }
     }
 
     private static void promise7OnlyTheLatestIsTried() {

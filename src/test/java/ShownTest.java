@@ -13,6 +13,8 @@ public final class ShownTest {
         promise12Number();
         promise12OddIsMoreThanThreeTimes();
         promise12ByBoxesNotByRank();
+        promise12IsLookedAtAnew();
+        sixteenBoxes();
         promise13Order();
         promise13OrderIsOfTheFewestTurnedPairs();
         promise13OfSeveralTheLower();
@@ -174,6 +176,35 @@ public final class ShownTest {
     private static void promise12ByBoxesNotByRank() {
         numbers(11, 0b100, 11, -1, 90000, 10, 12, 11);
         numbers(11, 0b100001, 90000, 11, 10, 12, 11, 0, 11);
+    }
+
+    private static void promise12IsLookedAtAnew() {
+        ClassAnswers x = answered(1, 0, 10, 11, 12, 500);
+        Check.due("number(2)", x.number(2), 0b1000);
+        x.send(3, 13);
+        x.send(0, 700);
+        x.ticks(1);
+        Check.due("number(0)", x.number(0), 12);
+        Check.due("number(2)", x.number(2), 0b0001);
+        Check.due("number(1)", x.number(1), 1);
+    }
+
+    private static void sixteenBoxes() {
+        int[] sent = new int[16];
+        java.util.Arrays.fill(sent, 1);
+        sent[15] = 7;
+        ClassAnswers choice = answered(0, 0, sent);
+        Check.due("answers()", choice.answers(), 16);
+        Check.due("share(1)", choice.share(1), 15);
+        Check.due("share(7)", choice.share(7), 1);
+        choice.rule(1, 16);
+        Check.due("share(7) with LEAST 16", choice.share(7), 1);
+        Check.due("teams() of the last ones", choice.teams(0xC000, 0), 0x4000);
+        numbers(1, 0x8000, sent);
+        int[] orders = new int[16];
+        java.util.Arrays.fill(orders, Check.order(4, 3, 2, 1, 0));
+        orders[15] = Check.order(0, 1, 2, 3, 4);
+        orders(5, orders[0], 10, orders);
     }
 
     private static void orders(int k, int joined, int turned, int... answers) {
