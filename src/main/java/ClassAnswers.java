@@ -383,6 +383,20 @@ public final class ClassAnswers {
         return v >= from && v <= to;
     }
 
+    /** The number of the clear bit that has as many clear ones below it as place tells. */
+    private static int clearBit(int bits, int place, int size) {
+        int passed = 0;
+        for (int i = 0; i < size; i++) {
+            if ((bits >> i & 1) == 0) {
+                if (passed == place) {
+                    return i;
+                }
+                passed++;
+            }
+        }
+        return 0;
+    }
+
     // ---- the parts
 
     /** The way from a box to a base. */
@@ -694,24 +708,11 @@ public final class ClassAnswers {
             int left = way;
             for (int i = 0; i < things; i++) {
                 int tails = WAYS[things - 1 - i];
-                int thing = unusedThing(used, left / tails, things);
+                int thing = clearBit(used, left / tails, things);
                 left = left % tails;
                 used |= 1 << thing;
                 row[i] = thing;
             }
-        }
-
-        private static int unusedThing(int used, int place, int things) {
-            int passed = 0;
-            for (int thing = 0; thing < things; thing++) {
-                if ((used >> thing & 1) == 0) {
-                    if (passed == place) {
-                        return thing;
-                    }
-                    passed++;
-                }
-            }
-            return 0;
         }
 
         private int turnedPairs(int things) {
@@ -820,22 +821,9 @@ public final class ClassAnswers {
                 return NONE;
             }
             state = state * FACTOR % MODULUS;
-            int lot = undrawnBox((int) (state % left), boxCount);
+            int lot = clearBit(drawn, (int) (state % left), boxCount);
             drawn |= 1 << lot;
             return lot;
-        }
-
-        private int undrawnBox(int place, int boxCount) {
-            int passed = 0;
-            for (int i = 0; i < boxCount; i++) {
-                if ((drawn >> i & 1) == 0) {
-                    if (passed == place) {
-                        return i;
-                    }
-                    passed++;
-                }
-            }
-            return 0;
         }
     }
 }
