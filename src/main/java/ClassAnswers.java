@@ -667,13 +667,16 @@ public final class ClassAnswers {
             countPairs(boxes, boxCount, things);
             turned = Integer.MAX_VALUE;
             // From the lowest things on: of orders that are as good the first one stays.
+            for (int i = 0; i < things; i++) {
+                row[i] = i;
+            }
             for (int way = 0; way < WAYS[things]; way++) {
-                layOut(way, things);
                 int turnedNow = turnedPairs(things);
                 if (turnedNow < turned) {
                     turned = turnedNow;
                     joined = asAnswer(things);
                 }
+                layOutNext(things);
             }
         }
 
@@ -702,17 +705,32 @@ public final class ClassAnswers {
             }
         }
 
-        /** Lays out the order that is at place way of all, by their things from the first on. */
-        private void layOut(int way, int things) {
-            int used = 0;
-            int left = way;
-            for (int i = 0; i < things; i++) {
-                int tails = WAYS[things - 1 - i];
-                int thing = clearBit(used, left / tails, things);
-                left = left % tails;
-                used |= 1 << thing;
-                row[i] = thing;
+        /** Lays out the order that comes next by its things from the first on; the last one stays. */
+        private void layOutNext(int things) {
+            int rising = things - 2;
+            while (rising >= 0 && row[rising] > row[rising + 1]) {
+                rising--;
             }
+            if (rising < 0) {
+                return;
+            }
+            int above = things - 1;
+            while (above > rising + 1 && row[above] < row[rising]) {
+                above--;
+            }
+            swap(rising, above);
+            // What stands behind falls, so turned about it is the lowest that it can be.
+            int last = things - 1;
+            for (int i = rising + 1; i < last; i++) {
+                swap(i, last);
+                last--;
+            }
+        }
+
+        private void swap(int i, int j) {
+            int thing = row[i];
+            row[i] = row[j];
+            row[j] = thing;
         }
 
         private int turnedPairs(int things) {
