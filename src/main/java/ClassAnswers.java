@@ -652,7 +652,8 @@ public final class ClassAnswers {
 
     /** Joins orders into the one with the fewest turned pairs. */
     private static final class Joiner {
-        private static final int[] WAYS = {1, 1, 2, 6, 24, 120};
+        /** So many orders of five things there are. */
+        static final int MOST_ORDERS = 120;
 
         /** ahead[a][b]: how many answers have a ahead of b. */
         private final int[][] ahead = new int[Question.MOST_THINGS][Question.MOST_THINGS];
@@ -670,13 +671,14 @@ public final class ClassAnswers {
             for (int i = 0; i < things; i++) {
                 row[i] = i;
             }
-            for (int way = 0; way < WAYS[things]; way++) {
+            boolean isNew = true;
+            for (int i = 0; isNew && i < MOST_ORDERS; i++) {
                 int turnedNow = turnedPairs(things);
                 if (turnedNow < turned) {
                     turned = turnedNow;
                     joined = asAnswer(things);
                 }
-                layOutNext(things);
+                isNew = layOutNext(things);
             }
         }
 
@@ -705,14 +707,14 @@ public final class ClassAnswers {
             }
         }
 
-        /** Lays out the order that comes next by its things from the first on; the last one stays. */
-        private void layOutNext(int things) {
+        /** Lays out the order that comes next, by its things from the first on, if there is one. */
+        private boolean layOutNext(int things) {
             int rising = things - 2;
             while (rising >= 0 && row[rising] > row[rising + 1]) {
                 rising--;
             }
             if (rising < 0) {
-                return;
+                return false;
             }
             int above = things - 1;
             while (above > rising + 1 && row[above] < row[rising]) {
@@ -725,6 +727,7 @@ public final class ClassAnswers {
                 swap(i, last);
                 last--;
             }
+            return true;
         }
 
         private void swap(int i, int j) {

@@ -174,6 +174,15 @@ public final class EdgesOfLettersTermsTest {
         run.then("send(0, 3)", "ticks(1)").due("base(0, 0, 3)", 1).due("base(1, 0, 3)", 2);
         run.due("count(5)", tries + 2);
         run.then("send(0, 4)", "ticks(1)").due("base(0, 0, 3)", 3).due("base(1, 0, 3)", 2);
+        // Questions come and go, the places stay.
+        for (int base = 0; base < 2; base++) {
+            Run next = Scenes.withBoxes(1).then("road(0, " + base + ", 0b0101, 0)");
+            for (int question = 0; question < 4; question++) {
+                next.then("ask(0, 0, " + (question + 1) + ")");
+                trysWay(next, 0, base, question % 2 == 0);
+                next.due("close(1)", 1);
+            }
+        }
     }
 
     /** "a DELAY (0 to 9 TICKS": it comes in the tick so many later, not the one ahead. */
@@ -228,7 +237,8 @@ public final class EdgesOfLettersTermsTest {
         run.due("about(0, 0)", 0).due("send(0, 1)", 1).due("send(0, 1)", 2).due("about(0, 0)", 2);
         run.due("about(1, 0)", 0).due("send(1, 1)", 1).due("about(0, 0)", 2);
         run.refused("send(0, 8)", BAD).due("send(0, 1)", 3);
-        run.then("ticks(1)", "close(1)").due("about(0, 0)", 3).then("ask(0, 0, 9)");
+        run.then("ticks(1)", "close(1)").due("about(0, 0)", 3).due("about(0, 1)", 2);
+        run.due("about(0, 2)", 1).then("ask(0, 0, 9)").due("about(0, 1)", 0).due("about(0, 2)", 0);
         run.due("about(0, 0)", 0).due("about(1, 0)", 0).due("send(0, 1)", 1).due("send(1, 1)", 1);
     }
 

@@ -124,6 +124,7 @@ public final class EdgesOfPromises1To9Test {
         for (Run run : Scenes.allWithBoxes()) {
             for (int bits : new int[] {-1, 65536, 65537, Integer.MAX_VALUE, Integer.MIN_VALUE}) {
                 run.refused("road(3, 0, " + bits + ", 0)", BAD);
+                run.refused("road(0, 1, " + bits + ", 0)", BAD);
             }
         }
         for (int bits : new int[] {0, 65535}) {
@@ -139,7 +140,8 @@ public final class EdgesOfPromises1To9Test {
     private static void promise3DelayIs0To9() {
         for (Run run : Scenes.allWithBoxes()) {
             for (int delay : new int[] {-1, 10, 11, Integer.MAX_VALUE, Integer.MIN_VALUE}) {
-                run.refused("road(3, 1, 0, " + delay + ")", BAD);
+                run.refused("road(3, 1, 65535, " + delay + ")", BAD);
+                run.refused("road(0, 0, 0, " + delay + ")", BAD);
             }
             run.due("road(3, 1, 0, 9)", 0).due("road(3, 1, 0, 0)", 0);
         }
@@ -314,6 +316,10 @@ public final class EdgesOfPromises1To9Test {
             run.due("about(1, 0)", count).due("send(1, " + of[2] + ")", count + 1);
             run.due("send(1, " + of[3] + ")", count + 2);
         }
+        // Behind the bell a refused answer leaves the one that was sent ahead of it in time.
+        Run late = Scenes.withBoxes(1).then("road(0, 0, 0b11, 0)", "road(0, 1, 65535, 0)",
+                ask(0, 0, 1), "send(0, 5)", "ticks(2)").refused("send(0, 8)", BAD);
+        late.due("ticks(1)", 3).due("about(0, 3)", 5).due("about(0, 1)", 6).due("about(0, 0)", 1);
     }
 
     /** "BAD: the BOX; NO: nothing is ASKED; BAD: the answer.": the first of them. */

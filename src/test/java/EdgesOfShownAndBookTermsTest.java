@@ -272,6 +272,10 @@ public final class EdgesOfShownAndBookTermsTest {
         numbers(5, 0b01, 6, 5, 5);
         numbers(5, 0b110, 5, 4, 6, 5, 5);
         numbers(5, 0, 5, 5, 5);
+        // It is odd no longer once it has sent another number, or others have.
+        answered(1, 0, 5, 5, 5, 9).due("number(2)", 0b1000).then("send(3, 5)", "send(0, 4)",
+                "ticks(1)").due("number(2)", 0b0001).due("number(1)", 1).then("send(1, 1)",
+                "send(2, 2)", "ticks(1)").due("number(0)", 2).due("number(2)", 0);
     }
 
     /** "(of an even number the lesser)", for the middle of the offs. */

@@ -49,11 +49,19 @@ final class Probe {
             see("draw()");
         }
         see("ask(0, 0, " + (see("count(1)") + 6) + ")");
+        see("rule(0, 1)");
+        for (int i = 0; i < 4; i++) {
+            passTick();
+        }
+        readBoxes();
         goOn();
         see("close(" + answer + ")");
         counts();
         readBook();
         see("box()");
+        see("box()");
+        see("draw()");
+        see("draw()");
         see("seed(5)");
         see("draw()");
     }
@@ -101,16 +109,21 @@ final class Probe {
         see("teams(" + all + ", 1)");
     }
 
-    /** HIDDEN tells where the bell is; answers sent anew tell what each road does. */
+    /** With HIDDEN set, answers() tells where the bell is. */
+    private void passTick() {
+        see("ticks(1)");
+        see("answers()");
+        see("count(4)");
+        see("count(5)");
+    }
+
+    /** Answers sent anew tell what each road does. */
     private void goOn() {
-        see("rule(0, 1)");
         for (int i = 0; i < ROUNDS; i++) {
             for (int box = 0; box < boxes; box++) {
                 sendOne(box, i == 0);
             }
-            see("ticks(1)");
-            see("answers()");
-            see("count(4)");
+            passTick();
             for (int box = 0; box < boxes; box++) {
                 see("base(0, " + box + ", 3)");
                 see("base(1, " + box + ", 3)");
