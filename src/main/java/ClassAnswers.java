@@ -11,6 +11,8 @@ public final class ClassAnswers {
     private static final int BASES = 2;
     private static final int LAST_TICK = 100000;
     private static final int MOST_TICKS_A_CALL = 200;
+    private static final int LEAST_IN_TEAMS = 2;
+    private static final int MOST_IN_TEAMS = 12;
     private static final int BAD_PAGE = -9;
 
     private static final int CHOICE = 0;
@@ -177,16 +179,16 @@ public final class ClassAnswers {
         if (!isBox(box) || !isWithin(what, 0, 3)) {
             return BAD;
         }
-        Box asked = boxes[box];
+        Box told = boxes[box];
         switch (what) {
             case 0:
-                return asked.sends;
+                return told.sends;
             case 1:
-                return asked.rounds * BASES;
+                return told.rounds * BASES;
             case 2:
-                return asked.isAcknowledged() ? 1 : 0;
+                return told.isAcknowledged() ? 1 : 0;
             default:
-                return asked.countedAnswer();
+                return told.countedAnswer();
         }
     }
 
@@ -296,7 +298,8 @@ public final class ClassAnswers {
 
     private boolean canBeTeams(int all) {
         int known = (1 << boxCount) - 1;
-        return (all & ~known) == 0 && isWithin(Integer.bitCount(all), 2, 12);
+        return (all & ~known) == 0
+                && isWithin(Integer.bitCount(all), LEAST_IN_TEAMS, MOST_IN_TEAMS);
     }
 
     private int evenestTeam(int all) {
