@@ -372,6 +372,7 @@ public final class EdgesOfPromises10To21Test {
             run.due("teams(" + (0xFFF << shift) + ", 0)", 0x3F << shift);
         }
         run.refused("teams(65535, 0)", BAD).refused("teams(65534, 1)", BAD);
+        Scenes.wholeClass().refused("teams(8191, 0)", BAD).refused("teams(65535, 1)", BAD);
     }
 
     private static void promise17BadWhat() {

@@ -88,6 +88,7 @@ public final class EdgesOfPromises1To9Test {
         Run run = Scenes.withBoxes(15).due("count(0)", 15).due("box()", 15);
         run.refused("box()", FULL).refused("box()", FULL).due("count(0)", 16);
         run.then("ask(0, 0, 1)", "ticks(1)", "close(0)").refused("box()", FULL);
+        Scenes.wholeClass().refused("box()", FULL).then("ask(0, 0, 20)").refused("box()", NO);
     }
 
     private static void promise2NoAheadOfFull() {

@@ -24,7 +24,17 @@ final class Probe {
     /** What was answered, call by call, till the run has had so many calls. */
     static List<String> of(Run run, int mostCalls) {
         Probe probe = new Probe(run, mostCalls);
-        probe.look();
+        probe.counts();
+        probe.readAll();
+        probe.goOnWithAll();
+        return probe.told;
+    }
+
+    /** The same without the reading, for runs whose calls are too few for both. */
+    static List<String> ofGoingOn(Run run, int mostCalls) {
+        Probe probe = new Probe(run, mostCalls);
+        probe.boxes = run.boxes();
+        probe.goOnWithAll();
         return probe.told;
     }
 
@@ -37,11 +47,13 @@ final class Probe {
         return got;
     }
 
-    private void look() {
-        counts();
+    private void readAll() {
         readBoxes();
         readShown();
         readBook();
+    }
+
+    private void goOnWithAll() {
         see("rule(0, 0)");
         see("rule(1, 0)");
         readShown();

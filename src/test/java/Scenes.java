@@ -27,6 +27,22 @@ final class Scenes {
                 "ticks(4)", "close(50)");
     }
 
+    /** The same and a third question, which all boxes had right: each has marks. */
+    static Run withMarks() {
+        return withBook().then("ask(0, 0, 30)", "send(0, 1)", "send(1, 1)", "send(2, 1)",
+                "send(3, 1)", "ticks(23)").due("close(1)", 4);
+    }
+
+    /** As many boxes as there can be, with marks, some lots drawn and rules set. */
+    static Run wholeClass() {
+        Run run = withBoxes(16).then("road(0, 0, 0b0110, 3)", "road(15, 1, 0b101, 9)",
+                "seed(11)", "draw()", "draw()", "ask(0, 0, 9)");
+        for (int box = 0; box < 16; box++) {
+            run.due("send(" + box + ", " + box % 3 + ")", 1);
+        }
+        return run.then("ticks(10)").due("close(0)", 6).then("rule(0, 1)", "rule(1, 2)");
+    }
+
     /** One is asked; some letters have come, some are under way, roads are in mid row. */
     static Run asked(int kind, int k) {
         int[] answers = answersOf(kind, k);
@@ -69,8 +85,8 @@ final class Scenes {
 
     /** All but those with a full book and those near the last tick. */
     static Run[] all() {
-        return new Run[] {new Run(), withBoxes(4), prepared(), withBook(), asked(0, 0),
-            asked(1, 0), asked(2, 2), asked(2, 5), atTheBell(0, 0), atTheBell(1, 0),
+        return new Run[] {new Run(), withBoxes(4), prepared(), withBook(), withMarks(),
+            asked(0, 0), asked(1, 0), asked(2, 2), asked(2, 5), atTheBell(0, 0), atTheBell(1, 0),
             atTheBell(2, 3), closed(0, 0), closed(1, 0), closed(2, 4)};
     }
 
@@ -82,8 +98,8 @@ final class Scenes {
 
     /** Those with four boxes in which none is asked. */
     static Run[] allNotAsked() {
-        return new Run[] {withBoxes(4), prepared(), withBook(), closed(0, 0), closed(1, 0),
-            closed(2, 4)};
+        return new Run[] {withBoxes(4), prepared(), withBook(), withMarks(), closed(0, 0),
+            closed(1, 0), closed(2, 4)};
     }
 
     /** Those with four boxes. */
